@@ -748,26 +748,28 @@ public final class DoubtCatcher {
             ridHouse = NONE;
             int place = 0;
             int clear = town.clearHouses();
-            for (acts = 0; acts < MOST_SIGNS && place < pad.count; acts++) {
+            acts = 0;
+            for (int i = 0; i < MOST_SIGNS && place < pad.count; i++) {
                 place = act.read(pad, place);
                 int reason = town.whyNot(act);
                 if (reason != 0) {
-                    badAct = acts;
+                    badAct = i;
                     why = reason;
                     return;
                 }
                 town.take(act);
                 int clearThen = town.clearHouses();
-                noteRid(clearThen & ~clear);
+                noteRid(i, clearThen & ~clear);
                 clear = clearThen;
+                acts++;
             }
         }
 
-        private void noteRid(int newlyClear) {
+        private void noteRid(int actNumber, int newlyClear) {
             if (newlyClear == 0 || ridAct != NONE) {
                 return;
             }
-            ridAct = acts;
+            ridAct = actNumber;
             for (int h = HOUSES - 1; h >= 0; h--) {
                 if ((newlyClear >> h & 1) == 1) {
                     ridHouse = h;

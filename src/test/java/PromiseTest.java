@@ -349,6 +349,19 @@ public final class PromiseTest {
         z.house(1, 9, 0, 0, 0);
         z.house(2, 10, 0, 0, 0);
         due("all at once: 9 does not go yet", z.behind(1, 0), 11);
+
+        DoubtCatcher v = new DoubtCatcher();
+        v.hole(0, 2, true);
+        v.hole(0, 3, true);
+        v.hole(1, 2, true);
+        v.hole(1, 3, true);
+        v.house(0, 10, 0, 0, 0);
+        v.house(1, 10, 0, 0, 0);
+        v.house(2, 4, 0, 0, 0);
+        v.house(3, 4, 0, 0, 0);
+        pad(v, ".");
+        due("as they were ahead of any going: both to C", v.behind(2, 0), 6);
+        due("as they were ahead of any going: none to D", v.behind(3, 0), 4);
     }
 
     private static void town() {
@@ -684,6 +697,39 @@ public final class PromiseTest {
         due("what 3", x.year(0, 1, 3), -2);
         pad(x, "A");
         due("whatever is on the PAD", x.year(0, 2, 0), 48);
+
+        DoubtCatcher y = new DoubtCatcher();
+        for (int h = 0; h < 8; h++) {
+            y.house(h, 10 + h, 1, 0, 0);
+        }
+        // 20 becomes 1574: G, 4, z 24; 2 becomes 224: A, 4, z 3; 37 becomes 2849: B, 4, z 44.
+        due("arsenic in G", y.year(20, 1, 0), 108 - 8);
+        due("no arsenic in A", y.year(2, 1, 0), 108);
+        due("arsenic in B", y.year(37, 1, 0), 108 - 6);
+        // 9 becomes 749: a HOLE of F to D (z 11); then a week.
+        y.house(3, 0, 0, 0, 0);
+        due("one goes by the HOLE", y.year(9, 2, 2), 0);
+        due("no HOLE yet", y.year(4, 1, 2), 1);
+        // 218 becomes 16424: a HOLE of A to A can not be; then 52208: a week.
+        due("what can not be is left out", y.year(218, 2, 0), 95 + 7);
+        // 1 becomes 149: a CAGE in F; then a week: by 1 each but D.
+        due("a CAGE and a week", y.year(1, 2, 0), 95 + 7 - 1);
+        due("a CAGE and a week", y.year(1, 2, 1), 1);
+        y.bag(0);
+        due("no CAGE in the BAG", y.year(1, 2, 1), 0);
+        // 46 becomes 3524: a CRUMB in E; then a week.
+        due("a CRUMB and a week", y.year(46, 2, 0), 95 + 8);
+        y.house(4, 14, 9, 0, 0);
+        due("9 CRUMBS already", y.year(46, 2, 0), 95 + 6 + 9);
+        // 19 becomes 1499: a CAGE of D goes back; then a week.
+        y.house(3, 20, 0, 2, 0);
+        due("a CAGE goes back", y.year(19, 2, 1), 1);
+        for (int i = 0; i < 99; i++) {
+            pad(y, ".");
+            y.done();
+        }
+        int sack = y.told(3);
+        due("the SACK from as it is", sack > 0 ? y.year(1, 2, 1) : -1, sack);
     }
 
     private static void image() {
