@@ -562,6 +562,7 @@ public final class EdgeTest {
         doubtsBehind("one goes, two come, of 98", pad(town("ACBC", 10, 10, 98), "."), 10, 9, 99);
         doubtsBehind("one goes, two come, of 99", pad(town("ACBC", 10, 10, 99), "."), 10, 9, 99);
         doubtsBehind("one goes, three come, of 98", pad(town("ADBDCD", 10, 10, 10, 98), "."), 10, 9, 9, 99);
+        doubtsBehind("one goes, two come, of A's 99", pad(town("ABAC", 99, 10, 10), "."), 99, 10, 9);
         DoubtCatcher x = pad(town("AHBHCHDHEHFHGH", 99, 99, 99, 99, 99, 99, 99, 99), ".");
         doubtsBehind("one goes, seven come, of 99", x, 99, 98, 98, 98, 98, 98, 98, 99);
         due("what is too many is lost", x.town(0), 786);
@@ -668,11 +669,14 @@ public final class EdgeTest {
         DoubtCatcher y = town("AB", 10, 1);
         y.house(1, 1, 0, 1, 0);
         ridSo("caught, and one comes in the same week", pad(y, "."), NONE, NONE);
+        y = town("AB", 10);
+        y.house(1, 0, 0, 1, 0);
+        ridSo("CLEAR at first, not in between", pad(y, ".."), 1, 1);
         due("what -1", y.rid(-1), OUTSIDE);
         due("what 2", y.rid(2), OUTSIDE);
-        pad(y, "B!A-");
+        pad(y, "..A-");
         due("STATE, though one was rid", y.rid(0), STATE);
-        pad(y, "B!A");
+        pad(y, "..A");
         due("NO, though one was rid", y.rid(0), NO);
         DoubtCatcher z = town("AB", 1, 0);
         z.house(0, 1, 0, 0, 9);
@@ -893,6 +897,20 @@ public final class EdgeTest {
         x.forget();
         x.gnawed(40, 45);
         asked("45 behind 40: 5 and a CRUMB alone", x, 0, 1);
+        x.forget();
+        x.gnawed(0, 5);
+        x.gnawed(1, 5);
+        asked("no CRUMBS alone", x, 0, 1);
+        x.forget();
+        x.gnawed(0, 5);
+        x.gnawed(1, 4);
+        due("they never are fewer", x.fits(-1), 0);
+        asked("they never are fewer", x, NONE, NONE);
+        x.forget();
+        x.gnawed(0, 1);
+        x.gnawed(4, 16);
+        due("8 or 9 CRUMBS", x.fits(-1), 2);
+        asked("8 or 9 CRUMBS: alike for 4 weeks", x, 5, 1);
     }
 
     private static void chased(String call, DoubtCatcher x, int catcher, int rat, int goings, int first) {
@@ -920,6 +938,7 @@ public final class EdgeTest {
         chased("four round", town("ABBCCDDA"), 0, 2, NONE, NONE);
         chased("four round, beside", town("ABBCCDDA"), 0, 3, 1, 3);
         chased("two ways of as few: the least", town("ABACBDCDBC"), 3, 0, 2, 1);
+        chased("by A", town("BAACCD"), 1, 3, 3, 0);
         chased("shut up apart", town("ABCD"), 0, 2, NONE, NONE);
         chased("all to H", town("HAHBHCHDHEHFHG"), 0, 6, 2, 7);
         due("what -1", row.chase(0, 1, -1), OUTSIDE);
@@ -1140,9 +1159,10 @@ public final class EdgeTest {
         x.bag(99);
         atWeek(x, 99);
         x.house(0, 99, 9, 9, 9);
-        for (int n = 1; n <= 8; n++) {
+        for (int n = 1; n <= 7; n++) {
             x.gnawed(0, 6);
         }
+        due("the 8th", x.gnawed(40, 46), 8);
         int sack = x.told(3);
         pad(x, times(".", 60));
         due("of all that is full", x.image(1), 1);
@@ -1154,6 +1174,7 @@ public final class EdgeTest {
         due("no HOLE", x.told(17), 0);
         due("all fit", x.fits(-1), 90);
         due("a SIGHT", x.gnawed(0, 1), 1);
+        due("it goes", x.forget(), 1);
         canBe("60 weeks", x);
         due("of all that is full", x.restore(1), 1);
         int[] full = {99, 9, 9, 9};
@@ -1167,7 +1188,8 @@ public final class EdgeTest {
         due("the week", x.told(4), 99);
         due("SIGHTS", x.told(5), 8);
         due("FULL", x.gnawed(0, 6), FULL);
-        due("these fit", x.fits(0), 60);
+        due("one fits, by the 8th too", x.fits(-1), 1);
+        due("one fits, by the 8th too", x.fits(0), 61);
         due("FULL", x.say('.'), FULL);
         judgedSo("week 99", x, 0, 5);
     }

@@ -10,10 +10,12 @@ import java.util.regex.Pattern;
 
 /** Drawn runs of calls on the class and on a second, plainer writing of the document. */
 public final class ModelTest {
-    private static final int RUNS = 200;
-    private static final int CALLS = 500;
+    private static final int RUNS = 1500;
+    /** An object answers as promised for 512 calls; one turn of a run makes fewer than 90. */
+    private static final int CALLS = 512 - 90;
     private static final int NONE = -6, NO = -5, FULL = -4, STATE = -3, OUTSIDE = -2, UNKNOWN = -1;
     private static int wrong = 0;
+    private static int calls = 0;
 
     public static void main(String[] args) {
         for (int run = 0; run < RUNS && wrong < 20; run++) {
@@ -28,6 +30,7 @@ public final class ModelTest {
     }
 
     private static void due(String call, long got, long want) {
+        calls++;
         if (got != want) {
             wrong++;
             System.out.println(call + " answered " + got + ", the model " + want);
@@ -40,12 +43,15 @@ public final class ModelTest {
         Random r = new Random(seed);
         DoubtCatcher x = new DoubtCatcher();
         Model m = new Model();
+        calls = 0;
         // Drawn calls alone seldom come to week 99.
-        for (int i = 0; seed % 4 == 0 && i < 80; i++) {
+        for (int i = 0; seed % 4 == 0 && i < 92; i++) {
             due("a week", x.say('.'), m.say('.'));
-            due("a week", x.done(), m.done());
+            if (i % 46 == 45) {
+                due("46 weeks", x.done(), m.done());
+            }
         }
-        for (int i = 0; i < CALLS && wrong < 20; i++) {
+        for (int i = 0; calls < CALLS && wrong < 20; i++) {
             call(r, x, m, "run " + seed + " call " + i + " ");
         }
     }
@@ -234,8 +240,8 @@ public final class ModelTest {
     // ---- all there is to ask
 
     private static void everyAlone() {
-        DoubtCatcher x = new DoubtCatcher();
         for (int d = 0; d < 100; d++) {
+            DoubtCatcher x = new DoubtCatcher();
             for (int c = 0; c < 10; c++) {
                 for (int k = 0; k < 10; k++) {
                     Model m = new Model();
@@ -259,8 +265,8 @@ public final class ModelTest {
     }
 
     private static void everyEver() {
-        DoubtCatcher x = new DoubtCatcher();
         for (int n = 1; n <= 16; n++) {
+            DoubtCatcher x = new DoubtCatcher();
             for (int t = 1; t <= 9; t++) {
                 BigInteger[][] p = chances(n, t);
                 for (int k = 0; k <= n; k++) {
